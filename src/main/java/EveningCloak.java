@@ -349,9 +349,9 @@ public final class EveningCloak {
             return finding(BEYOND);
         }
         int above = HANGERS - Integer.bitCount(room.darkHangers());
-        int below = above == 0 ? 1 : HANGERS;
-        // The line's lower number is a power of 2, so halving is all that there is to cut.
-        for (int halvings = 0; halvings < 4 && above % 2 == 0 && below % 2 == 0; halvings++) {
+        int below = HANGERS;
+        // 16 has no factor but 2, so halving is all that there is to cut.
+        for (int halvings = 0; halvings < 4 && above % 2 == 0; halvings++) {
             above /= 2;
             below /= 2;
         }
@@ -753,7 +753,6 @@ public final class EveningCloak {
             kind[d] = newKind;
             hanger[d] = newHanger;
             stub[d] = 10 * d;
-            // An undo may have left the rows of a deposit that is no more.
             kept[d] = 0;
             worn[d] = 0;
             out[d] = 0;

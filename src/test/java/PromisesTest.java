@@ -98,6 +98,7 @@ public final class PromisesTest {
         EveningCloak x = new EveningCloak();
         due("2 first", x.stand(5, 5, 15), 0);
         due("2 what it was", x.stand(5, 3, 7), 515);
+        due("2 least", x.stand(0, 0, 0), 0);
         due("3 what it is", x.listed(5), 307);
         due("3 others stay", x.listed(4), 0);
         int[][] bad = {{-1, 0, 0}, {6, 0, 0}, {0, -1, 0}, {0, 6, 0}, {0, 0, -1}, {0, 0, 16}, {MOST, MOST, MOST}, {LEAST, 0, 0}};
@@ -192,6 +193,9 @@ public final class PromisesTest {
         due("6 umbrella under a topper", y.of(0, 8), 2);
         y.change(1, 5, 1);
         due("6 umbrella in the dark", y.of(0, 8), 1);
+        EveningCloak z = room("umbrella on 3", "moon");
+        due("6 light of 1", z.light(3), 1);
+        due("6 umbrella in a light of 1", z.of(0, 8), 2);
     }
 
     private static void change() {
@@ -365,6 +369,8 @@ public final class PromisesTest {
         due("13 nothing anywhere", new EveningCloak().now(4), 65535);
         due("13 lightest of none", new EveningCloak().now(5), 0);
         due("13 lightest, the least", room("topper on 9", "topper on 2").now(5), 2);
+        due("13 lightest at the second", room("topper on 1").now(5), 1);
+        due("13 lightest at the begin", room("topper", "topper on 1").now(5), 0);
         due("13 lightest at the end", room("topper on 15").now(5), 15);
     }
 
@@ -436,6 +442,9 @@ public final class PromisesTest {
         due("21 the girl of the place", y.standFor(2, 3), 6);
         due("21 not yet her day", y.standFor(2, 2), 0);
         due("21 another place", y.standFor(1, 40), 4);
+        due("21 the first place", y.standFor(0, 40), 4);
+        due("21 the last place", y.standFor(5, 40), 5);
+        due("21 no days", y.standFor(5, 0), 0);
         due("21 the list stays", y.listed(2), 100);
         int[][] none = {{-1, 0}, {6, 0}, {0, -1}, {0, 41}};
         for (int[] b : none) due("21 beyond", y.standFor(b[0], b[1]), BEYOND);
@@ -668,13 +677,13 @@ public final class PromisesTest {
             "hat worn 1 kept 1", "hat 5", "hat coat", "hat#", "hat\t", "girl hope 0", "girl hope 100", "girl hope", "girl on 1",
             "girl hope 5 hope 5", "stand", "stand 6 0 0", "stand 0 6 0", "stand 0 0 16", "stand 0 0", "stand 0 0 0 0",
             "stand 000", "5", "on 5", "hat on 4294967296", "hat on 99999999999999999999", "hatstub 5", "hat;moon on 3;dusk stub",
-            "hat\u0000", "\u00ff", "hat \u00e8", "stand 0 0 10000", "hat out kept 1"};
+            "hat\u0000", "\u00ff", "hat \u00e8", "stand 0 0 10000", "hat out kept 1", "boat", "hatz", "z"};
         int[] faults = {0, 3, 0, 0, 0, 4, 5, 4, 0, 6, 7,
             7, 7, 9, 11, 9, 9, 8,
             11, 4, 4, 3, 3, 10, 10, 9, 5,
             12, 5, 6, 8, 10, 9, 12,
             9, 0, 0, 7, 7, 0, 23,
-            3, 0, 4, 10, 8};
+            3, 0, 4, 10, 8, 0, 0, 0};
         for (int i = 0; i < texts.length; i++) {
             EveningCloak x = new EveningCloak();
             due("32 fault in '" + texts[i] + "'", tell(x, texts[i]), -1 - faults[i]);
