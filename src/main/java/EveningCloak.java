@@ -813,10 +813,8 @@ public final class EveningCloak {
             }
         }
 
+        /** Told of what is out, too: that it gives no light then is for lightAt() to see. */
         int shineOf(int d) {
-            if (out[d] != 0) {
-                return 0;
-            }
             int evening = Math.min(20 + kept[d] / 10, 50);
             int dusk = evening / 2;
             switch (kind[d]) {

@@ -79,7 +79,7 @@ final class PlainCloak {
 
         int tell(int what, World w) {
             switch (what) {
-                case 6: return isOut() ? 0 : kind().shines(this);
+                case 6: return kind().shines(this);
                 case 7: return kind().reaches(this);
                 case 8: return kind().wears(this, w);
                 case 9: return kind().costs();

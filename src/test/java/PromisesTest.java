@@ -161,9 +161,12 @@ public final class PromisesTest {
         x.change(4, 4, 99);
         due("6 moon at most", x.of(4, 6), 124);
         x.change(4, 5, 1);
-        due("6 what is out shines nothing", x.of(4, 6), 0);
-        due("6 nor ahead", x.ahead(4, 6, 10), 0);
+        due("6 what is out shines as ever", x.of(4, 6), 124);
+        due("6 but gives no light", x.light(0), 50 + 10 + 3);
         due("6 what is out reaches as ever", x.of(4, 7), 9);
+        EveningCloak y = room("coat out", "evening kept 9 out", "hat out", "dusk kept 10 out", "moon kept 35 worn 41 out",
+            "umbrella out", "topper out");
+        for (int d = 0; d < 7; d++) due("6 shines, out, kind " + d, y.of(d, 6), shines[d]);
         int[][] bad = {{-1, 0}, {7, 0}, {0, -1}, {0, 10}, {LEAST, 0}, {MOST, 0}, {0, MOST}};
         for (int[] b : bad) due("6 beyond", x.of(b[0], b[1]), BEYOND);
     }
@@ -384,6 +387,8 @@ public final class PromisesTest {
         due("14 reaches", x.ahead(0, 7, 7), 6);
         due("14 worn at most", x.ahead(0, 4, 100), 99);
         due("14 out", x.ahead(1, 3, 50), 0);
+        due("14 what is out shines as now", x.ahead(1, 6, 0), 10);
+        due("14 and is kept no longer", x.ahead(1, 6, 100), 10);
         int[][] bad = {{2, 3, 0}, {-1, 3, 0}, {0, 0, 0}, {0, 5, 0}, {0, 8, 0}, {0, 9, 0}, {0, 2, 0}, {0, 3, -1}, {0, 3, 101}};
         for (int[] b : bad) due("14 beyond", x.ahead(b[0], b[1], b[2]), BEYOND);
         due("15 dream now", x.later(0, 0, 0), 0);
