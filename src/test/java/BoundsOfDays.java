@@ -81,6 +81,8 @@ final class BoundsOfDays extends Bounds {
         holds("13", "5 the HANGER where it is lightest", () -> {
             due("light nowhere", new EveningCloak().now(5), 0);
             due("the first", room("topper;topper on 1").now(5), 0);
+            due("the first, by far", room("topper;topper;topper on 5").now(5), 0);
+            due("the second", room("topper on 1").now(5), 1);
             due("the last", room("topper on 15;evening on 15;topper on 0").now(5), 15);
             due("1 more", room("evening kept 9;evening on 8 kept 10").now(5), 8);
         });

@@ -75,6 +75,7 @@ final class BoundsOfFindings extends Bounds {
         due("kinds, missing, no deposit", x.kinds(3, -1), MISSING);
         due("night, on the last day", atTheEnd.night(21), BEYOND);
         due("night, on the last day", atTheEnd.night(0), BEYOND);
+        x.hold(1, -1);
         due("as, no such kind, holds nothing", x.as(1, 7), BEYOND);
         due("as, no such kind, holds nothing", x.as(1, -1), BEYOND);
         due("sheet, other bits, below 0", x.sheet(0, 7, -1), BEYOND);
@@ -142,13 +143,13 @@ final class BoundsOfFindings extends Bounds {
         due("given out", room("topper", "topper", "girl hope 6", "stand 0 0 0").giveOut(1), 1);
     }
 
-    /** A room with something in each place that a call could change. */
+    /** A room with something in each place that a call could change: in every spot, so that look() meets no finding early. */
     private static EveningCloak busy() {
         EveningCloak x = room("coat on 1;evening on 2 kept 5;hat on 3;dusk on 4;moon on 5 worn 7",
             "umbrella on 6;topper on 7;coat on 8 out", "girl;girl hope 9;girl;girl;girl;girl hope 99",
             "stand 0 1 2;stand 1 2 3;stand 5 4 7");
+        for (int spot = 0; spot < 10; spot++) x.hold(spot, spot % 4);
         x.hold(0, 4);
-        x.hold(9, 0);
         x.seed(77);
         x.image();
         x.go(1);
@@ -156,7 +157,7 @@ final class BoundsOfFindings extends Bounds {
         x.wake(2, 0, 30);
         x.wake(3, 2, 12);
         x.change(0, 2, 55);
-        x.hold(8, 1);
+        x.hold(8, 7);
         x.sheet(0, 8, 8);
         x.write(0, 1, 31);
         x.write(0, 7, 37);
@@ -277,7 +278,7 @@ final class BoundsOfFindings extends Bounds {
         refused("night(2)", STATE, x -> onDay(99998, x), x -> x.night(2));
         refused("fits(3, 0)", MISSING, x -> x.fits(3, 0));
         refused("kinds(3, 0)", MISSING, x -> x.kinds(3, 0));
-        refused("as(1, 0)", MISSING, x -> x.as(1, 0));
+        refused("as(1, 0)", MISSING, x -> x.hold(1, -1), x -> x.as(1, 0));
         refused("write(3, 0, 5)", MISSING, x -> x.write(3, 0, 5));
         refused("copy(0, 0, 3, 0, 1)", MISSING, x -> x.copy(0, 0, 3, 0, 1));
         refused("load(3)", MISSING, x -> x.load(3));

@@ -27,7 +27,8 @@ final class BoundsOfImages extends Bounds {
             x.tear();
             due("torn", x.undo(), NONE);
             x.image();
-            due("something again", x.undo(), 0);
+            x.image();
+            due("something again, kept twice", x.undo(), 0);
         });
         holds("42", "Nothing is kept: 1 if something was, else 0.", () -> {
             EveningCloak x = room("coat");
@@ -58,6 +59,33 @@ final class BoundsOfImages extends Bounds {
     }
 
     private void kept() {
+        keptOne();
+        keptFull();
+    }
+
+    /** The last of each row is kept, too. */
+    private void keptFull() {
+        EveningCloak x = eightCoats();
+        for (int g = 0; g < 6; g++) x.girl(9);
+        int[] last = {TOPPER, 15, 98, 9998, 97, 0};
+        int[] other = {COAT, 1, 2, 3, 4, 1};
+        for (int what = 0; what < 6; what++) x.change(7, what, last[what]);
+        for (int what = 0; what < 3; what++) x.wake(5, what, 20 + what);
+        for (int spot = 0; spot < 10; spot++) x.hold(spot, 7);
+        for (int i = 0; i < 6; i++) x.stand(i, 5, 9 + i);
+        x.image();
+        for (int what = 0; what < 6; what++) x.change(7, what, other[what]);
+        for (int what = 0; what < 3; what++) x.wake(5, what, 70 + what);
+        for (int spot = 0; spot < 10; spot++) x.hold(spot, 0);
+        for (int i = 0; i < 6; i++) x.stand(i, 0, 0);
+        x.undo();
+        for (int what = 0; what < 6; what++) due("the last deposit, what " + what, x.of(7, what), last[what]);
+        for (int what = 0; what < 3; what++) due("the last girl, what " + what, x.ofGirl(5, what), 20 + what);
+        for (int spot = 0; spot < 10; spot++) due("spot " + spot, x.as(spot, COAT), 7);
+        for (int i = 0; i < 6; i++) due("place " + i, x.listed(i), 509 + i);
+    }
+
+    private void keptOne() {
         EveningCloak x = room("moon on 1 stub 2 kept 3 worn 4 out;hat", "girl hope 5", "stand 5 4 3");
         x.wake(0, 0, 6);
         x.wake(0, 2, 7);

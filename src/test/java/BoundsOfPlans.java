@@ -58,6 +58,10 @@ final class BoundsOfPlans extends Bounds {
             due("of its own girl, on the last day of the list", y.standFor(5, 6), 15);
             due("before that day", y.standFor(5, 5), 0);
             due("the other's", y.standFor(0, 6), 0);
+            y.stand(5, 1, 0);
+            due("of its own girl, who stood by the first hanger", y.standFor(5, 6), 15);
+            y.stand(5, 1, 15);
+            due("of its own girl, who stood by the last hanger", y.standFor(5, 6), 15);
         });
     }
 
@@ -136,8 +140,8 @@ final class BoundsOfPlans extends Bounds {
             due("one of seven", all.giveOut(1), 1);
             all.wake(0, 1, 22);
             due("none of seven", all.giveOut(1), 0);
-            // One evening more than two toppers of lower numbers.
-            due("fewest before least", room("topper", "topper", "evening", "girl hope 7").giveOut(1), 4);
+            // 3, 3 and 7 of light: the third is as good as the first two, which are the lesser set.
+            due("fewest before least", room("topper", "topper", "dusk on 1", "girl hope 9").giveOut(1), 4);
             EveningCloak met = room("topper", "girl hope 3");
             met.wake(0, 2, 9998);
             due("met once more", met.giveOut(1), 1);

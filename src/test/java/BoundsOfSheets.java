@@ -221,8 +221,8 @@ final class BoundsOfSheets extends Bounds {
             due("the other has too few", x.copy(0, 0, 2, 0, 3), BEYOND);
             due("just so many", x.copy(0, 3, 2, 0, 2), 2);
             due("far too many", x.copy(0, MOST, 1, MOST, MOST), BEYOND);
-            due("a sum that wraps around", x.copy(0, 2, 1, 0, MOST - 1), BEYOND);
-            due("a sum that wraps around", x.copy(0, 0, 1, 2, MOST - 1), BEYOND);
+            due("sums that wrap around", x.copy(0, 2, 1, 2, MOST - 1), BEYOND);
+            due("sums that wrap around", x.copy(0, 5, 1, 5, MOST), BEYOND);
         });
     }
 

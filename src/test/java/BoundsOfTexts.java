@@ -67,10 +67,27 @@ final class BoundsOfTexts extends Bounds {
         fault("Hat", 0);
         fault("hAt", 0);
         fault("haT", 0);
+        everyLetter("stand", " 0 0 0", 0);
+        everyLetter("girl", "", 0);
+        for (String word : WORDS) everyLetter(word, "", 0);
+        everyLetter("hat on", " 1", 4);
+        everyLetter("hat stub", " 1", 4);
+        everyLetter("hat kept", " 1", 4);
+        everyLetter("hat worn", " 1", 4);
+        everyLetter("hat out", "", 4);
+        everyLetter("girl hope", " 1", 5);
         fault("hat onto 1", 4);
         fault("haton 1", 0);
         fine("hat on1stub2kept3worn4out", 1);
         fine("stand0 0 0", 1);
+    }
+
+    /** With another letter in any place it is another word. */
+    private void everyLetter(String text, String behind, int from) {
+        fine(text + behind, 1);
+        for (int i = from; i < text.length(); i++) fault(text.substring(0, i) + "z" + text.substring(i + 1) + behind, from);
+        fault(text.substring(0, text.length() - 1) + behind, from);
+        fault(text + "z" + behind, from);
     }
 
     private void numbers() {
@@ -208,6 +225,8 @@ final class BoundsOfTexts extends Bounds {
         fault("hat on 16", 7);
         fault("girl hope 0", 10);
         fault("glove", 0);
+        fault("hut", 0);
+        fault("hat or 5", 4);
         fault("on 5", 0);
         fault("out", 0);
         fault("hope 5", 0);
@@ -264,6 +283,9 @@ final class BoundsOfTexts extends Bounds {
             due("'hat'", x.text(), 1);
             x.feed(-1, 4);
             due("four bytes of 255", x.text(), -1);
+            x.feed(0xe8, 1);
+            x.feed(0x6174, 2);
+            due("a byte above 127 is no letter", x.text(), -1);
         });
         holds("30", "(n 1 to 4): how many it has. BEYOND: n.", () -> {
             range("n", 1, 4, n -> new EveningCloak().feed(0, n));
